@@ -576,18 +576,18 @@ public final class HeavierRow {
             inRow++;
         }
 
-        boolean isInRow(int thing) {
+        int rowBits() {
+            int bits = 0;
             for (int i = 0; i < inRow; i++) {
-                if (Rows.at(row, i) == thing) {
-                    return true;
-                }
+                bits |= 1 << Rows.at(row, i);
             }
-            return false;
+            return bits;
         }
 
         void completeRow() {
+            int told = rowBits();
             for (int thing = 0; thing < things; thing++) {
-                if (!isInRow(thing)) {
+                if (!Rows.hasBit(told, thing)) {
                     addToRow(thing);
                 }
             }
@@ -758,7 +758,7 @@ public final class HeavierRow {
         }
 
         private void takeRowName() {
-            int thing = takeThing(NONE);
+            int thing = takeThing(into.rowBits());
             if (fault == 0) {
                 into.addToRow(thing);
             }
@@ -807,8 +807,8 @@ public final class HeavierRow {
             if (into.twos >= Street.MOST_TWOS) {
                 fail(2);
             }
-            int first = takeThing(NONE);
-            int second = takeThing(first);
+            int first = takeThing(0);
+            int second = takeThing(1 << Math.max(first, 0));
             return fault == 0 ? into.addTwo(first, second) : Street.DONE;
         }
 
@@ -824,8 +824,8 @@ public final class HeavierRow {
             return name;
         }
 
-        /** A NAME of a thing, that isn't the first of the same two, nor (NONE given) in the row. */
-        private int takeThing(int other) {
+        /** A NAME of a thing that isn't among those (as bits) that may not be told again here. */
+        private int takeThing(int barred) {
             if (!isName()) {
                 fail(2);
             }
@@ -833,7 +833,7 @@ public final class HeavierRow {
             if (thing == NONE) {
                 fail(5);
             }
-            if (thing == other) {
+            if (Rows.hasBit(barred, thing)) {
                 fail(3);
             }
             advance();
