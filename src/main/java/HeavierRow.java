@@ -466,6 +466,10 @@ public final class HeavierRow {
         static boolean hasBit(int bits, int i) {
             return i >= 0 && i < 31 && (bits >> i & 1) != 0;
         }
+
+        static int lowestBit(long bits) {
+            return Long.bitCount((bits & -bits) - 1);
+        }
     }
 
     /** What the document lets lie there: the numbers of the latest call that laid some. */
@@ -1200,8 +1204,8 @@ public final class HeavierRow {
             singles = 0;
             for (int i = 0; i < book.weighings; i++) {
                 if (book.counts(i, k) && book.isSingle(i)) {
-                    int a = Integer.numberOfTrailingZeros(Rows.at(book.firsts, i));
-                    int b = Integer.numberOfTrailingZeros(Rows.at(book.seconds, i));
+                    int a = Rows.lowestBit(Rows.at(book.firsts, i));
+                    int b = Rows.lowestBit(Rows.at(book.seconds, i));
                     int bit = bitOf(things, a, b, Rows.at(book.saids, i));
                     Rows.add(tallies, bit, 1);
                     asked |= 1 << bit;
@@ -1655,7 +1659,7 @@ public final class HeavierRow {
             if (low == 0 && high == 0) {
                 return true;
             }
-            int first = low != 0 ? Long.numberOfTrailingZeros(low) : HALF + Long.numberOfTrailingZeros(high);
+            int first = low != 0 ? Rows.lowestBit(low) : HALF + Rows.lowestBit(high);
             int kind = Rows.at(kindOf, first);
             return (low & ~Rows.at(kindLow, kind)) == 0 && (high & ~Rows.at(kindHigh, kind)) == 0;
         }
@@ -1807,7 +1811,7 @@ public final class HeavierRow {
         }
 
         private static boolean isAlike(Search search, int set) {
-            int first = Integer.numberOfTrailingZeros(set);
+            int first = Rows.lowestBit(set);
             for (int i = 0; i < search.count; i++) {
                 if (Rows.hasBit(set, i) && Rows.at(search.goals, i) != Rows.at(search.goals, first)) {
                     return false;
@@ -2103,8 +2107,11 @@ public final class HeavierRow {
         }
 
         private void note(int fit, int last) {
-            int least = Integer.numberOfTrailingZeros(fit) + 1;
-            int most = 32 - Integer.numberOfLeadingZeros(fit);
+            int least = Rows.lowestBit(fit) + 1;
+            int most = least;
+            for (int weight = least; weight <= MOST_WEIGHT; weight++) {
+                most = Rows.hasBit(fit, weight - 1) ? weight : most;
+            }
             for (int thing = 0; thing <= last; thing++) {
                 int low = thing == last ? least : Rows.at(laid, thing);
                 int high = thing == last ? most : Rows.at(laid, thing);
