@@ -180,7 +180,7 @@ public final class HeavierRow {
         if (orders.know(book, k) > Search.MOST) {
             return SPENT;
         }
-        search.begin(town.things);
+        search.begin(town.things, goal == 2 || goal == 1 && !town.hasTwins, goal == 2 ? 1 << p : 0);
         for (int i = 0; i < orders.leftCount; i++) {
             int order = orders.leftAt(i);
             search.add(orders.markOf(order), orders.goalOf(order, goal, p));
@@ -320,7 +320,7 @@ public final class HeavierRow {
         if (m < 0 || m > 2 || what < 0 || what > 2) {
             return NONE;
         }
-        search.begin(town.things);
+        search.begin(town.things, false, -1);
         orders.addSwapped(search, town.row, m);
         search.finish();
         return what == 0 ? search.fewestOfAll() : what == 1 ? search.nextOfFewest() : search.count;
@@ -1426,13 +1426,14 @@ public final class HeavierRow {
     }
 
     /**
-     * The fewest weighings from a set of at most 120 orders on, as two masks of 60. What was found
-     * for a set stays known as long as the same orders with the same goals are loaded.
+     * The fewest weighings from a set of at most 120 orders on; a set is two masks of 60 orders, and
+     * rows of sets have the low masks at 2 * i, the high ones behind them. What was found for a set
+     * stays known as long as the same orders with the same goals are loaded.
      */
     private static final class Search {
         static final int MOST = 120;
         private static final int HALF = 60;
-        private static final int SLOTS = 8192;
+        private static final int SLOTS = 4096;
         private static final int TRIES = 64;
         private static final int MANY = 1000000;
         private static final int DEEPEST = 12;
@@ -1440,29 +1441,53 @@ public final class HeavierRow {
         final int[] marks = new int[MOST];
         final int[] goals = new int[MOST];
         int count;
-        int pairs;
         private int things;
+        private boolean joining;
+        private int unlike;
         private int filled;
         private boolean changed;
         private int base;
         private int kinds;
         private final int[] kindOf = new int[MOST];
-        private final long[] kindLow = new long[MOST];
-        private final long[] kindHigh = new long[MOST];
-        private final long[] saidLow = new long[3 * Orders.PAIRS];
-        private final long[] saidHigh = new long[3 * Orders.PAIRS];
+        private final long[] kindSets = new long[2 * MOST];
+        private final long[] saidSets = new long[6 * Orders.PAIRS];
+        private final int[] codes = new int[Orders.PAIRS];
+        private final int[] groupsOf = new int[1 << Orders.PAIRS];
         private int round;
         private final int[] rounds = new int[SLOTS];
-        private final long[] keyLow = new long[SLOTS];
-        private final long[] keyHigh = new long[SLOTS];
+        private final long[] keys = new long[2 * SLOTS];
+        /** Above 0: what is needed; below 0: at least so much is; 0: not looked for. */
         private final int[] worstOf = new int[SLOTS];
         private final int[] sumOf = new int[SLOTS];
 
-        void begin(int streetThings) {
+        /**
+         * Joining: the goal is not come to before each thing is joined to each other one by pairs
+         * whose saying is sure. Whoever is not joined to a thing may stand on either side of it, so
+         * its place, and without twins who has a place, stays open. Unlike are the things (as bits)
+         * of which it counts for the goal or the orders which one they are.
+         */
+        void begin(int streetThings, boolean joiningGoal, int unlikeThings) {
             filled = 0;
-            changed = streetThings != things || round == 0;
+            changed = streetThings != things || joiningGoal != joining || unlikeThings != unlike || round == 0;
+            if (streetThings != things) {
+                numberPairs(streetThings);
+            }
+            joining = joiningGoal;
+            unlike = unlikeThings;
+        }
+
+        private void numberPairs(int streetThings) {
             things = streetThings;
-            pairs = things * (things - 1) / 2;
+            Rows.fill(groupsOf, 0);
+            for (int a = 0; a < things; a++) {
+                for (int b = a + 1; b < things; b++) {
+                    Rows.put(codes, Orders.pairOf(things, a, b), 10 * a + b);
+                }
+            }
+        }
+
+        int pairs() {
+            return things * (things - 1) / 2;
         }
 
         void add(int mark, int goal) {
@@ -1485,48 +1510,42 @@ public final class HeavierRow {
             round++;
             kinds = 0;
             base = 2;
-            for (int bit = 0; bit < saidLow.length; bit++) {
-                Rows.put(saidLow, bit, 0L);
-                Rows.put(saidHigh, bit, 0L);
+            for (int i = 0; i < saidSets.length; i++) {
+                Rows.put(saidSets, i, 0L);
             }
-            for (int i = 0; i < count; i++) {
-                sortIn(i);
+            for (int order = 0; order < count; order++) {
+                sortIn(order);
             }
         }
 
-        private static long low(int i) {
-            return i < HALF ? 1L << i : 0L;
-        }
-
-        private static long high(int i) {
-            return i < HALF ? 0L : 1L << i - HALF;
-        }
-
-        private void sortIn(int i) {
-            int mark = Rows.at(marks, i);
+        private void sortIn(int order) {
+            int mark = Rows.at(marks, order);
             if ((mark & 1023) != 0) {
                 base = 3;
             }
-            for (int bit = 0; bit < saidLow.length; bit++) {
+            for (int bit = 0; bit < 3 * Orders.PAIRS; bit++) {
                 if (Rows.hasBit(mark, bit)) {
-                    Rows.put(saidLow, bit, Rows.at(saidLow, bit) | low(i));
-                    Rows.put(saidHigh, bit, Rows.at(saidHigh, bit) | high(i));
+                    putIn(saidSets, bit, order);
                 }
             }
-            int kind = kindLike(i);
-            Rows.put(kindOf, i, kind);
-            Rows.put(kindLow, kind, Rows.at(kindLow, kind) | low(i));
-            Rows.put(kindHigh, kind, Rows.at(kindHigh, kind) | high(i));
+            int kind = kindLike(order);
+            Rows.put(kindOf, order, kind);
+            putIn(kindSets, kind, order);
         }
 
-        private int kindLike(int i) {
-            for (int other = 0; other < i; other++) {
-                if (Rows.at(goals, other) == Rows.at(goals, i)) {
+        private static void putIn(long[] sets, int set, int order) {
+            int i = order < HALF ? 2 * set : 2 * set + 1;
+            Rows.put(sets, i, Rows.at(sets, i) | 1L << order % HALF);
+        }
+
+        private int kindLike(int order) {
+            for (int other = 0; other < order; other++) {
+                if (Rows.at(goals, other) == Rows.at(goals, order)) {
                     return Rows.at(kindOf, other);
                 }
             }
-            Rows.put(kindLow, kinds, 0L);
-            Rows.put(kindHigh, kinds, 0L);
+            Rows.put(kindSets, 2 * kinds, 0L);
+            Rows.put(kindSets, 2 * kinds + 1, 0L);
             kinds++;
             return kinds - 1;
         }
@@ -1539,18 +1558,35 @@ public final class HeavierRow {
             return (1L << Math.max(count - HALF, 0)) - 1;
         }
 
+        /** The pairs, as bits, of which all orders say the same. */
+        private int surePairs() {
+            int sure = -1;
+            for (int order = 0; order < count; order++) {
+                sure &= Rows.at(marks, order);
+            }
+            return (sure | sure >> 10 | sure >> 20) & (1 << pairs()) - 1;
+        }
+
         int fewestOfAll() {
-            return worstFrom(this, allLow(), allHigh(), 0);
+            int worst = 0;
+            int limit = -1;
+            while (worst > limit && limit <= DEEPEST) {
+                limit++;
+                worst = worstFrom(this, allLow(), allHigh(), surePairs(), limit, 0);
+            }
+            return worst;
         }
 
         int sumOfAll() {
-            return sumFrom(this, allLow(), allHigh(), 0);
+            int least = sumFrom(this, allLow(), allHigh(), surePairs(), 0, 0);
+            int sum = sumFrom(this, allLow(), allHigh(), surePairs(), least, 0);
+            return sum <= least ? sum : sumFrom(this, allLow(), allHigh(), surePairs(), MANY, 0);
         }
 
         int nextOfFewest() {
             int wanted = fewestOfAll();
-            for (int pair = 0; pair < pairs && wanted > 0; pair++) {
-                if (worstBehind(this, pair, allLow(), allHigh(), wanted + 1, 0) == wanted) {
+            for (int pair = 0; pair < pairs() && wanted > 0; pair++) {
+                if (worstBehind(this, pair, allLow(), allHigh(), surePairs(), wanted, 0) <= wanted) {
                     return codeOf(pair);
                 }
             }
@@ -1559,26 +1595,21 @@ public final class HeavierRow {
 
         int nextOfSum() {
             int wanted = sumOfAll();
-            for (int pair = 0; pair < pairs && wanted > 0; pair++) {
-                if (sumBehind(this, pair, allLow(), allHigh(), wanted + 1, 0) == wanted) {
+            for (int pair = 0; pair < pairs() && wanted > 0; pair++) {
+                if (sumBehind(this, pair, allLow(), allHigh(), surePairs(), wanted, 0) <= wanted) {
                     return codeOf(pair);
                 }
             }
             return NONE;
         }
 
+        /** 10 * the first and the second of a pair. */
         private int codeOf(int pair) {
-            for (int a = 0; a < things; a++) {
-                for (int b = a + 1; b < things; b++) {
-                    if (Orders.pairOf(things, a, b) == pair) {
-                        return 10 * a + b;
-                    }
-                }
-            }
-            return NONE;
+            return Rows.at(codes, pair);
         }
 
-        private static int worstFrom(Search s, long low, long high, int depth) {
+        /** What the set needs in the worst case; if that is above the limit: at least so much. */
+        private static int worstFrom(Search s, long low, long high, int sure, int limit, int depth) {
             if (s.isAlike(low, high)) {
                 return 0;
             }
@@ -1586,38 +1617,45 @@ public final class HeavierRow {
                 return MANY;
             }
             int slot = s.slotOf(low, high);
-            if (Rows.at(s.worstOf, slot) > 0) {
-                return Rows.at(s.worstOf, slot);
+            int known = Rows.at(s.worstOf, slot);
+            int least = Math.max(s.leastWorst(low, high, sure), -known);
+            if (known > 0 || least > limit) {
+                return known > 0 ? known : least;
             }
-            int least = s.leastWorst(low, high);
             int best = MANY;
-            for (int pair = 0; pair < s.pairs && best > least; pair++) {
-                best = Math.min(best, worstBehind(s, pair, low, high, best, depth));
+            int free = s.freeThings(sure);
+            for (int pair = 0; pair < s.pairs() && best > least; pair++) {
+                if (s.isFirstLike(pair, free)) {
+                    int most = Math.min(limit, best - 1);
+                    best = Math.min(best, worstBehind(s, pair, low, high, sure, most, depth));
+                }
             }
-            Rows.put(s.worstOf, slot, best);
+            Rows.put(s.worstOf, slot, best <= limit ? best : -best);
             return best;
         }
 
-        /** One weighing and the most behind it; MANY if it tells nothing or isn't below the limit. */
-        private static int worstBehind(Search s, int pair, long low, long high, int limit, int depth) {
+        /** One weighing and the most behind it, or if that is above the limit: at least so much. */
+        private static int worstBehind(Search s, int pair, long low, long high, int sure, int limit, int depth) {
+            int then = sure | 1 << pair;
             int worst = 0;
-            for (int bit = pair; bit < s.saidLow.length; bit += Orders.PAIRS) {
-                long partLow = low & Rows.at(s.saidLow, bit);
-                long partHigh = high & Rows.at(s.saidHigh, bit);
+            for (int bit = pair; bit < 3 * Orders.PAIRS; bit += Orders.PAIRS) {
+                long partLow = low & Rows.at(s.saidSets, 2 * bit);
+                long partHigh = high & Rows.at(s.saidSets, 2 * bit + 1);
                 if (partLow == low && partHigh == high) {
                     return MANY;
                 }
-                worst = Math.max(worst, s.leastWorst(partLow, partHigh));
+                worst = Math.max(worst, s.leastWorst(partLow, partHigh, then));
             }
-            for (int bit = pair; bit < s.saidLow.length && 1 + worst < limit; bit += Orders.PAIRS) {
-                long partLow = low & Rows.at(s.saidLow, bit);
-                long partHigh = high & Rows.at(s.saidHigh, bit);
-                worst = Math.max(worst, worstFrom(s, partLow, partHigh, depth + 1));
+            for (int bit = pair; bit < 3 * Orders.PAIRS && worst < limit; bit += Orders.PAIRS) {
+                long partLow = low & Rows.at(s.saidSets, 2 * bit);
+                long partHigh = high & Rows.at(s.saidSets, 2 * bit + 1);
+                worst = Math.max(worst, worstFrom(s, partLow, partHigh, then, limit - 1, depth + 1));
             }
-            return 1 + worst < limit ? 1 + worst : MANY;
+            return 1 + worst;
         }
 
-        private static int sumFrom(Search s, long low, long high, int depth) {
+        /** What the set's orders need together; if that is above the limit: at least so much. */
+        private static int sumFrom(Search s, long low, long high, int sure, int limit, int depth) {
             if (s.isAlike(low, high)) {
                 return 0;
             }
@@ -1625,34 +1663,61 @@ public final class HeavierRow {
                 return MANY;
             }
             int slot = s.slotOf(low, high);
-            if (Rows.at(s.sumOf, slot) > 0) {
-                return Rows.at(s.sumOf, slot);
+            int known = Rows.at(s.sumOf, slot);
+            int least = Math.max(s.leastSum(low, high, sure), -known);
+            if (known > 0 || least > limit) {
+                return known > 0 ? known : least;
             }
-            int least = s.leastSum(low, high);
             int best = MANY;
-            for (int pair = 0; pair < s.pairs && best > least; pair++) {
-                best = Math.min(best, sumBehind(s, pair, low, high, best, depth));
+            int free = s.freeThings(sure);
+            for (int pair = 0; pair < s.pairs() && best > least; pair++) {
+                if (s.isFirstLike(pair, free)) {
+                    int most = Math.min(limit, best - 1);
+                    best = Math.min(best, sumBehind(s, pair, low, high, sure, most, depth));
+                }
             }
-            Rows.put(s.sumOf, slot, best);
+            Rows.put(s.sumOf, slot, best <= limit ? best : -best);
             return best;
         }
 
-        private static int sumBehind(Search s, int pair, long low, long high, int limit, int depth) {
+        /** A weighing for each and what is behind it, or if that is above the limit: at least so much. */
+        private static int sumBehind(Search s, int pair, long low, long high, int sure, int limit, int depth) {
+            int then = sure | 1 << pair;
             int sum = Long.bitCount(low) + Long.bitCount(high);
-            for (int bit = pair; bit < s.saidLow.length; bit += Orders.PAIRS) {
-                long partLow = low & Rows.at(s.saidLow, bit);
-                long partHigh = high & Rows.at(s.saidHigh, bit);
+            for (int bit = pair; bit < 3 * Orders.PAIRS; bit += Orders.PAIRS) {
+                long partLow = low & Rows.at(s.saidSets, 2 * bit);
+                long partHigh = high & Rows.at(s.saidSets, 2 * bit + 1);
                 if (partLow == low && partHigh == high) {
                     return MANY;
                 }
-                sum += s.leastSum(partLow, partHigh);
+                sum += s.leastSum(partLow, partHigh, then);
             }
-            for (int bit = pair; bit < s.saidLow.length && sum < limit; bit += Orders.PAIRS) {
-                long partLow = low & Rows.at(s.saidLow, bit);
-                long partHigh = high & Rows.at(s.saidHigh, bit);
-                sum += sumFrom(s, partLow, partHigh, depth + 1) - s.leastSum(partLow, partHigh);
+            for (int bit = pair; bit < 3 * Orders.PAIRS && sum <= limit; bit += Orders.PAIRS) {
+                long partLow = low & Rows.at(s.saidSets, 2 * bit);
+                long partHigh = high & Rows.at(s.saidSets, 2 * bit + 1);
+                sum -= s.leastSum(partLow, partHigh, then);
+                sum += sumFrom(s, partLow, partHigh, then, limit - sum, depth + 1);
             }
-            return sum < limit ? sum : MANY;
+            return sum;
+        }
+
+        /** Things of which nothing is known: one is as good as the other. */
+        private int freeThings(int sure) {
+            int free = (1 << things) - 1 & ~unlike;
+            for (int pair = 0; pair < pairs(); pair++) {
+                if (Rows.hasBit(sure, pair)) {
+                    free &= ~(1 << codeOf(pair) / 10 | 1 << codeOf(pair) % 10);
+                }
+            }
+            return free;
+        }
+
+        /** Of free things it is enough to try the first, or the first two with one another. */
+        private boolean isFirstLike(int pair, int free) {
+            int a = codeOf(pair) / 10;
+            int b = codeOf(pair) % 10;
+            boolean first = !Rows.hasBit(free, a) || Rows.lowestBit(free) == a;
+            return first && (!Rows.hasBit(free, b) || Rows.lowestBit(free & ~(1 << a)) == b);
         }
 
         private boolean isAlike(long low, long high) {
@@ -1661,7 +1726,7 @@ public final class HeavierRow {
             }
             int first = low != 0 ? Rows.lowestBit(low) : HALF + Rows.lowestBit(high);
             int kind = Rows.at(kindOf, first);
-            return (low & ~Rows.at(kindLow, kind)) == 0 && (high & ~Rows.at(kindHigh, kind)) == 0;
+            return (low & ~Rows.at(kindSets, 2 * kind)) == 0 && (high & ~Rows.at(kindSets, 2 * kind + 1)) == 0;
         }
 
         private int kindsIn(long low, long high) {
@@ -1669,16 +1734,18 @@ public final class HeavierRow {
                 return Long.bitCount(low) + Long.bitCount(high);
             }
             int sum = 0;
-            for (int kind = 0; kind < kinds; kind++) {
-                boolean in = (low & Rows.at(kindLow, kind)) != 0 || (high & Rows.at(kindHigh, kind)) != 0;
-                sum += in ? 1 : 0;
+            for (int i = 0; i < 2 * kinds; i += 2) {
+                sum += (low & Rows.at(kindSets, i)) != 0 || (high & Rows.at(kindSets, i + 1)) != 0 ? 1 : 0;
             }
             return sum;
         }
 
-        /** No strategy is better than this: so many weighings part no more kinds. */
-        private int leastWorst(long low, long high) {
-            return depthOf(kindsIn(low, high), base);
+        /** No strategy is better: so many weighings part no more kinds, and join no more things. */
+        private int leastWorst(long low, long high, int sure) {
+            if (isAlike(low, high)) {
+                return 0;
+            }
+            return Math.max(depthOf(kindsIn(low, high), base), joinsFor(sure));
         }
 
         static int depthOf(int kinds, int base) {
@@ -1691,11 +1758,11 @@ public final class HeavierRow {
             return depth;
         }
 
-        /** Kinds of one order each: the least sum of a tree's depths; else one weighing for each. */
-        private int leastSum(long low, long high) {
+        /** For kinds of one order each the least sum of a tree's depths; else what each one needs. */
+        private int leastSum(long low, long high, int sure) {
             int all = Long.bitCount(low) + Long.bitCount(high);
             if (kinds != count) {
-                return isAlike(low, high) ? 0 : all;
+                return isAlike(low, high) ? 0 : all * joinsFor(sure);
             }
             int depth = 0;
             int reach = 1;
@@ -1708,20 +1775,58 @@ public final class HeavierRow {
             return all * depth + over + parted;
         }
 
+        /** How many weighings more each order needs at least, if the goal isn't come to. */
+        private int joinsFor(int sure) {
+            if (!joining) {
+                return 1;
+            }
+            if (Rows.at(groupsOf, sure) == 0) {
+                Rows.put(groupsOf, sure, countGroups(sure));
+            }
+            return Math.max(1, Rows.at(groupsOf, sure) - 1);
+        }
+
+        private int countGroups(int joined) {
+            int groups = 0;
+            int seen = 0;
+            for (int thing = 0; thing < things; thing++) {
+                if (!Rows.hasBit(seen, thing)) {
+                    seen |= groupOf(thing, joined);
+                    groups++;
+                }
+            }
+            return groups;
+        }
+
+        private int groupOf(int thing, int joined) {
+            int group = 1 << thing;
+            for (int step = 1; step < things; step++) {
+                for (int a = 0; a < things; a++) {
+                    for (int b = a + 1; b < things; b++) {
+                        boolean touched = Rows.hasBit(group, a) || Rows.hasBit(group, b);
+                        if (touched && Rows.hasBit(joined, Orders.pairOf(things, a, b))) {
+                            group |= 1 << a | 1 << b;
+                        }
+                    }
+                }
+            }
+            return group;
+        }
+
         /** The set's slot, as a new one if there was none; NONE if the ones near by are all taken. */
         private int slotOf(long low, long high) {
             long mixed = (low * 31 + high) * 0x9E3779B97F4A7C15L;
-            int slot = (int) (mixed >>> 51);
+            int slot = (int) (mixed >>> 40) & SLOTS - 1;
             for (int tries = 0; tries < TRIES; tries++) {
                 if (Rows.at(rounds, slot) != round) {
                     Rows.put(rounds, slot, round);
-                    Rows.put(keyLow, slot, low);
-                    Rows.put(keyHigh, slot, high);
+                    Rows.put(keys, 2 * slot, low);
+                    Rows.put(keys, 2 * slot + 1, high);
                     Rows.put(worstOf, slot, 0);
                     Rows.put(sumOf, slot, 0);
                     return slot;
                 }
-                if (Rows.at(keyLow, slot) == low && Rows.at(keyHigh, slot) == high) {
+                if (Rows.at(keys, 2 * slot) == low && Rows.at(keys, 2 * slot + 1) == high) {
                     return slot;
                 }
                 slot = slot + 1 & SLOTS - 1;
@@ -1747,14 +1852,14 @@ public final class HeavierRow {
                     }
                 }
             }
-            for (int pair = 0; pair < search.pairs; pair++) {
+            for (int pair = 0; pair < search.pairs(); pair++) {
                 for (int set = 0; set < SETS; set++) {
                     if (Rows.hasBit(set, pair) && Rows.at(holds, set ^ 1 << pair) != 0) {
                         Rows.put(holds, set, 1);
                     }
                 }
             }
-            return leastSet((1 << search.pairs) - 1);
+            return leastSet((1 << search.pairs()) - 1);
         }
 
         private int leastSet(int all) {
@@ -1792,7 +1897,7 @@ public final class HeavierRow {
             for (int clean = 0; clean <= all; clean++) {
                 for (int stained = 0; stained <= all; stained++) {
                     if ((clean & stained) == 0) {
-                        Rows.put(needs, clean * SETS + stained, needOf(clean, stained, search.pairs));
+                        Rows.put(needs, clean * SETS + stained, needOf(clean, stained, search.pairs()));
                     }
                 }
             }
@@ -1925,7 +2030,8 @@ public final class HeavierRow {
         private int asked;
         private final int[] askFirst = new int[90];
         private final int[] askSecond = new int[90];
-        private final int[] tallies = new int[270];
+        private final int[] downs = new int[90];
+        private final int[] ups = new int[90];
 
         void load(Street street, Book book, int k) {
             int loaded = 0;
@@ -1976,11 +2082,9 @@ public final class HeavierRow {
             ask(first, second);
             guess();
             known = ASK_ONE;
-            int bits = 0;
-            for (int said = 0; said <= 2; said++) {
-                bits |= Rows.at(tallies, said) > 0 ? 1 << said : 0;
-            }
-            return bits;
+            int down = Rows.at(downs, 0);
+            int up = Rows.at(ups, 0);
+            return (count > down + up ? 1 : 0) + (down > 0 ? 2 : 0) + (up > 0 ? 4 : 0);
         }
 
         /** Two heaps are as good in either order: the first one is the lesser. */
@@ -1993,8 +2097,9 @@ public final class HeavierRow {
             int best = NONE;
             int fewestLeft = 0;
             for (int i = 0; i < asked && count > 0; i++) {
-                int worst = Math.max(Rows.at(tallies, 3 * i), Rows.at(tallies, 3 * i + 1));
-                worst = Math.max(worst, Rows.at(tallies, 3 * i + 2));
+                int down = Rows.at(downs, i);
+                int up = Rows.at(ups, i);
+                int worst = Math.max(Math.max(down, up), count - down - up);
                 if (best == NONE || worst < fewestLeft) {
                     best = i;
                     fewestLeft = worst;
@@ -2033,7 +2138,8 @@ public final class HeavierRow {
 
         private void guess() {
             count = 0;
-            Rows.fill(tallies, 0);
+            Rows.fill(downs, 0);
+            Rows.fill(ups, 0);
             Rows.fill(leastOf, MOST_WEIGHT + 1);
             Rows.fill(mostOf, 0);
             if (things == 0) {
@@ -2098,11 +2204,8 @@ public final class HeavierRow {
             for (int i = 0; i < asked; i++) {
                 int first = Rows.at(askFirst, i);
                 int second = Rows.at(askSecond, i);
-                int down = fit & fitting(first, second, 1, last);
-                int up = fit & fitting(first, second, 2, last);
-                Rows.add(tallies, 3 * i, Integer.bitCount(fit & ~down & ~up));
-                Rows.add(tallies, 3 * i + 1, Integer.bitCount(down));
-                Rows.add(tallies, 3 * i + 2, Integer.bitCount(up));
+                Rows.add(downs, i, Integer.bitCount(fit & fitDown(first, second, last)));
+                Rows.add(ups, i, Integer.bitCount(fit & fitDown(second, first, last)));
             }
         }
 
