@@ -2204,8 +2204,9 @@ public final class HeavierRow {
             for (int i = 0; i < asked; i++) {
                 int first = Rows.at(askFirst, i);
                 int second = Rows.at(askSecond, i);
-                Rows.add(downs, i, Integer.bitCount(fit & fitDown(first, second, last)));
-                Rows.add(ups, i, Integer.bitCount(fit & fitDown(second, first, last)));
+                int fits = fitsOf(first, second, last);
+                Rows.add(downs, i, Integer.bitCount(fit & fits));
+                Rows.add(ups, i, Integer.bitCount(fit & fits >> MOST_WEIGHT));
             }
         }
 
@@ -2229,22 +2230,26 @@ public final class HeavierRow {
 
         /** The last thing's weights by which the balance says this of two heaps. */
         private int fitting(int first, int second, int said, int last) {
-            if (said == 0) {
-                return ALL & ~fitDown(first, second, last) & ~fitDown(second, first, last);
-            }
-            return said == 1 ? fitDown(first, second, last) : fitDown(second, first, last);
+            int fits = fitsOf(first, second, last);
+            int down = ALL & fits;
+            int up = fits >> MOST_WEIGHT;
+            return said == 1 ? down : said == 2 ? up : ALL & ~down & ~up;
         }
 
-        private int fitDown(int down, int up, int last) {
+        /** The last thing's weights by which the first goes down, and above them those for the second. */
+        private int fitsOf(int first, int second, int last) {
             int bit = 1 << last;
-            int more = Rows.at(sums, down & ~bit) - Rows.at(sums, up & ~bit);
-            if ((down & bit) != 0) {
-                return ALL & ~upTo(sticks - more);
+            int more = Rows.at(sums, first & ~bit) - Rows.at(sums, second & ~bit);
+            int down = more > sticks ? ALL : 0;
+            int up = -more > sticks ? ALL : 0;
+            if ((first & bit) != 0) {
+                down = ALL & ~upTo(sticks - more);
+                up = upTo(-more - sticks - 1);
+            } else if ((second & bit) != 0) {
+                down = upTo(more - sticks - 1);
+                up = ALL & ~upTo(sticks + more);
             }
-            if ((up & bit) != 0) {
-                return upTo(more - sticks - 1);
-            }
-            return more > sticks ? ALL : 0;
+            return up << MOST_WEIGHT | down;
         }
 
         private static int upTo(int weight) {
