@@ -277,7 +277,7 @@ public final class FuzzTest {
     public static void main(String[] args) {
         FuzzTest t = new FuzzTest();
         int from = args.length > 1 ? Integer.parseInt(args[1]) : 0;
-        int runs = args.length > 0 ? Integer.parseInt(args[0]) : 150;
+        int runs = args.length > 0 ? Integer.parseInt(args[0]) : 400;
         for (int i = from; i < from + runs && t.wrong == 0; i++) {
             t.run(i);
             t.runTexts(i);

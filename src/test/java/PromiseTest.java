@@ -198,6 +198,12 @@ public final class PromiseTest {
         fault(deep + "done" + ends + ";", 0, NONE);
         fault(deep + "a b(done/done)" + ends + ";", 2, deep.length() + 4);
         fault(deep + "a b(?/done)" + ends + ";", 1, deep.length() + 4);
+        String thirds = two + "plan p ";
+        for (int i = 0; i < 10; i++) {
+            thirds += "a b(done/done/";
+        }
+        fault(thirds + "done" + "))))))))))" + ";", 0, NONE);
+        fault(thirds + "a b(done/done)" + "))))))))))" + ";", 2, thirds.length() + 4);
         String much = two;
         for (int plan = 0; plan < 3; plan++) {
             much += "plan p" + "qrs".charAt(plan) + " a b(" + branch(4) + "/" + (plan < 2 ? branch(3) : "done") + ");";
@@ -486,7 +492,24 @@ public final class PromiseTest {
         x.told(2, 4, 1);
         x.told(4, 8, 1);
         due("d and e; c, b, a against e", x.atOnce(0, 0, 0), 8 + 64 + 256 + 512);
+        blocks();
         spent();
+    }
+
+    /** Three are even: if d or e isn't above them, nobody has place 2, wherever the other one stands. */
+    private static void blocks() {
+        HeavierRow x = town("twins;" + FIVE);
+        x.told(1, 2, 0);
+        x.told(2, 4, 0);
+        promise = 17;
+        due("place 2", x.fewest(1, 2, 0), 2);
+        promise = 18;
+        due("place 2", x.next(1, 2, 0), 3);
+        promise = 19;
+        due("13 for the first, 5 for the second", x.total(1, 2, 0, 0), 18);
+        due("a d", x.total(1, 2, 1, 0), 3);
+        promise = 20;
+        due("place 2: a d and a e", x.atOnce(1, 2, 0), 4 + 8);
     }
 
     private static void spent() {
@@ -776,6 +799,7 @@ public final class PromiseTest {
         due("days", x.about(9), 0);
         due("hidden weights", x.weigh(2, 4), 1);
         due("the seed", x.wet(), 1);
+        swappedBoxes();
         promise = 43;
         due("about(10)", x.about(10), NONE);
         due("about(-1)", x.about(-1), NONE);
@@ -791,7 +815,54 @@ public final class PromiseTest {
         }
     }
 
+    /** What a box keeps is put back over weighings that were told at the same numbers. */
+    private static void swappedBoxes() {
+        promise = 42;
+        HeavierRow x = town(ABC);
+        x.image(0);
+        x.later(1);
+        x.told(1, 2, 1);
+        x.wet();
+        x.later(1);
+        x.told(2, 4, 2);
+        x.untell(0);
+        x.image(1);
+        x.back(0);
+        x.later(7);
+        x.told(4, 3, 0);
+        x.told(6, 1, 1);
+        x.wet();
+        due("back", x.back(1), 2);
+        int[][] kept = {{1, 2, 1, 1}, {2, 4, 2, 0}};
+        for (int i = 0; i < 2; i++) {
+            for (int what = 0; what < 4; what++) {
+                due("weighing(" + i + ", " + what + ")", x.weighing(i, what), kept[i][what]);
+            }
+        }
+        due("told at 1, drowned at 1", x.led(0, 1, 1), 0);
+        due("told at 2", x.led(1, 2, 1), 0);
+        due("told at 2 behind the day", x.led(1, 2, 2), 1);
+        due("days", x.about(9), 1);
+        due("time", x.about(4), 2);
+    }
+
+    /** Sixty twos: the last plan's last two is as good as the first. */
+    private static void manyTwos() {
+        promise = 22;
+        String text = ABC;
+        for (int plan = 0; plan < 2; plan++) {
+            text += "plan p" + "qr".charAt(plan) + " a b(" + branch(4) + "/" + branch(3) + ");";
+        }
+        text += "plan ps a b(a b(a b(a b(a b(a b(a b(a b(a b(done/done)/done)/done)/done)/done)/done)/done)/done)/";
+        HeavierRow x = town(text + "b c(a c(done/done)/a c(b a(done/done)/c b(done/done))));");
+        due("twos", x.about(8), 46 + 9 + 5);
+        due("three are parted: c of a and b", x.judged(2, 0, 0, 0, 0), 3);
+        due("most", x.judged(2, 0, 0, 1, 0), 9);
+        due("3 * 9, b a c: 3, b c a: 3, c b a: 4", x.judged(2, 0, 0, 2, 0), 37);
+    }
+
     public static void main(String[] args) {
+        manyTwos();
         newObject();
         tape();
         street();
