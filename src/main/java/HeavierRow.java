@@ -463,6 +463,16 @@ public final class HeavierRow {
             }
         }
 
+        /** Where the value is among the first ones; NONE if it is not. */
+        static int find(long[] row, int among, long value) {
+            for (int i = 0; i < among && i < row.length; i++) {
+                if (row[i] == value) {
+                    return i;
+                }
+            }
+            return NONE;
+        }
+
         static boolean hasBit(int bits, int i) {
             return i >= 0 && i < 31 && (bits >> i & 1) != 0;
         }
@@ -598,20 +608,11 @@ public final class HeavierRow {
         }
 
         int thingOf(long name) {
-            return indexOf(names, things, name);
+            return Rows.find(names, things, name);
         }
 
         int planOf(long name) {
-            return indexOf(planNames, plans, name);
-        }
-
-        private static int indexOf(long[] known, int count, long name) {
-            for (int i = 0; i < count; i++) {
-                if (Rows.at(known, i) == name) {
-                    return i;
-                }
-            }
-            return NONE;
+            return Rows.find(planNames, plans, name);
         }
 
         boolean hasThing(int thing) {
@@ -792,7 +793,12 @@ public final class HeavierRow {
                 r.advance();
                 return Street.DONE;
             }
-            int two = r.readTwo();
+            if (r.into.twos >= Street.MOST_TWOS) {
+                r.fail(2);
+            }
+            int first = r.takeThing(0);
+            int second = r.takeThing(1 << Math.max(first, 0));
+            int two = r.fault == 0 ? r.into.addTwo(first, second) : Street.DONE;
             r.takeSign('(');
             r.into.setWay(two, 1, readPart(r, depth + 1));
             r.takeSign('/');
@@ -805,15 +811,6 @@ public final class HeavierRow {
             r.into.setWay(two, 0, third);
             r.takeSign(')');
             return two;
-        }
-
-        private int readTwo() {
-            if (into.twos >= Street.MOST_TWOS) {
-                fail(2);
-            }
-            int first = takeThing(0);
-            int second = takeThing(1 << Math.max(first, 0));
-            return fault == 0 ? into.addTwo(first, second) : Street.DONE;
         }
 
         private long takeNewName(int known) {
@@ -883,50 +880,36 @@ public final class HeavierRow {
         }
 
         private void advance() {
-            int at = stop;
-            while (at < length && (byteAt(at) == 32 || byteAt(at) == 10)) {
-                at++;
+            start = stop;
+            while (start < length && (byteAt(start) == 32 || byteAt(start) == 10)) {
+                start++;
             }
-            start = at;
-            int sign = byteAt(at);
-            if (isLetter(sign)) {
-                readWord();
-            } else if (isDigit(sign)) {
-                readNumber();
-            } else if (sign == NONE) {
-                kind = END;
-            } else {
-                boolean known = sign == ';' || sign == '(' || sign == ')' || sign == '/';
-                kind = known ? sign : NO_TOKEN;
-                stop = at + 1;
-            }
-        }
-
-        private void readWord() {
-            word = 0;
             stop = start;
+            word = 0;
+            number = 0;
             while (stop < length && isLetter(byteAt(stop))) {
                 word = word << 8 | byteAt(stop);
                 stop++;
             }
-            kind = stop - start > MOST_LETTERS ? NO_TOKEN : WORD;
-            ownWord = NONE;
-            for (int i = 0; i < ownWords.length; i++) {
-                if (ownWords[i] == word) {
-                    ownWord = i;
-                }
+            if (stop > start) {
+                kind = stop - start > MOST_LETTERS ? NO_TOKEN : WORD;
+                ownWord = Rows.find(ownWords, ownWords.length, word);
+                return;
             }
-        }
-
-        private void readNumber() {
-            number = 0;
-            stop = start;
             while (stop < length && isDigit(byteAt(stop))) {
                 number = 10 * number + byteAt(stop) - '0';
                 stop++;
             }
-            boolean right = stop - start <= MOST_DIGITS && !isLetter(byteAt(stop));
-            kind = right ? NUMBER : NO_TOKEN;
+            if (stop > start) {
+                kind = stop - start > MOST_DIGITS || isLetter(byteAt(stop)) ? NO_TOKEN : NUMBER;
+                return;
+            }
+            kind = start >= length ? END : isSign(byteAt(start)) ? byteAt(start) : NO_TOKEN;
+            stop = Math.min(start + 1, length);
+        }
+
+        private static boolean isSign(int sign) {
+            return sign == ';' || sign == '(' || sign == ')' || sign == '/';
         }
 
         private static boolean isLetter(int sign) {
@@ -1618,7 +1601,7 @@ public final class HeavierRow {
             }
             int slot = s.slotOf(low, high);
             int known = Rows.at(s.worstOf, slot);
-            int least = Math.max(s.leastWorst(low, high, sure), -known);
+            int least = Math.max(s.leastWorst(low, high, s.joinsFor(sure)), -known);
             if (known > 0 || least > limit) {
                 return known > 0 ? known : least;
             }
@@ -1637,6 +1620,7 @@ public final class HeavierRow {
         /** One weighing and the most behind it, or if that is above the limit: at least so much. */
         private static int worstBehind(Search s, int pair, long low, long high, int sure, int limit, int depth) {
             int then = sure | 1 << pair;
+            int joins = s.joinsFor(then);
             int worst = 0;
             for (int bit = pair; bit < 3 * Orders.PAIRS; bit += Orders.PAIRS) {
                 long partLow = low & Rows.at(s.saidSets, 2 * bit);
@@ -1644,7 +1628,7 @@ public final class HeavierRow {
                 if (partLow == low && partHigh == high) {
                     return MANY;
                 }
-                worst = Math.max(worst, s.leastWorst(partLow, partHigh, then));
+                worst = Math.max(worst, s.leastWorst(partLow, partHigh, joins));
             }
             for (int bit = pair; bit < 3 * Orders.PAIRS && worst < limit; bit += Orders.PAIRS) {
                 long partLow = low & Rows.at(s.saidSets, 2 * bit);
@@ -1664,7 +1648,7 @@ public final class HeavierRow {
             }
             int slot = s.slotOf(low, high);
             int known = Rows.at(s.sumOf, slot);
-            int least = Math.max(s.leastSum(low, high, sure), -known);
+            int least = Math.max(s.leastSum(low, high, s.joinsFor(sure)), -known);
             if (known > 0 || least > limit) {
                 return known > 0 ? known : least;
             }
@@ -1683,6 +1667,7 @@ public final class HeavierRow {
         /** A weighing for each and what is behind it, or if that is above the limit: at least so much. */
         private static int sumBehind(Search s, int pair, long low, long high, int sure, int limit, int depth) {
             int then = sure | 1 << pair;
+            int joins = s.joinsFor(then);
             int sum = Long.bitCount(low) + Long.bitCount(high);
             for (int bit = pair; bit < 3 * Orders.PAIRS; bit += Orders.PAIRS) {
                 long partLow = low & Rows.at(s.saidSets, 2 * bit);
@@ -1690,12 +1675,12 @@ public final class HeavierRow {
                 if (partLow == low && partHigh == high) {
                     return MANY;
                 }
-                sum += s.leastSum(partLow, partHigh, then);
+                sum += s.leastSum(partLow, partHigh, joins);
             }
             for (int bit = pair; bit < 3 * Orders.PAIRS && sum <= limit; bit += Orders.PAIRS) {
                 long partLow = low & Rows.at(s.saidSets, 2 * bit);
                 long partHigh = high & Rows.at(s.saidSets, 2 * bit + 1);
-                sum -= s.leastSum(partLow, partHigh, then);
+                sum -= s.leastSum(partLow, partHigh, joins);
                 sum += sumFrom(s, partLow, partHigh, then, limit - sum, depth + 1);
             }
             return sum;
@@ -1741,11 +1726,11 @@ public final class HeavierRow {
         }
 
         /** No strategy is better: so many weighings part no more kinds, and join no more things. */
-        private int leastWorst(long low, long high, int sure) {
+        private int leastWorst(long low, long high, int joins) {
             if (isAlike(low, high)) {
                 return 0;
             }
-            return Math.max(depthOf(kindsIn(low, high), base), joinsFor(sure));
+            return Math.max(depthOf(kindsIn(low, high), base), joins);
         }
 
         static int depthOf(int kinds, int base) {
@@ -1759,10 +1744,10 @@ public final class HeavierRow {
         }
 
         /** For kinds of one order each the least sum of a tree's depths; else what each one needs. */
-        private int leastSum(long low, long high, int sure) {
+        private int leastSum(long low, long high, int joins) {
             int all = Long.bitCount(low) + Long.bitCount(high);
             if (kinds != count) {
-                return isAlike(low, high) ? 0 : all * joinsFor(sure);
+                return isAlike(low, high) ? 0 : all * joins;
             }
             int depth = 0;
             int reach = 1;
@@ -1786,31 +1771,22 @@ public final class HeavierRow {
             return Math.max(1, Rows.at(groupsOf, sure) - 1);
         }
 
+        /** Each thing has four bits of labels; those of one group are made alike. */
         private int countGroups(int joined) {
-            int groups = 0;
-            int seen = 0;
-            for (int thing = 0; thing < things; thing++) {
-                if (!Rows.hasBit(seen, thing)) {
-                    seen |= groupOf(thing, joined);
-                    groups++;
+            int groups = things;
+            int labels = 0x43210;
+            for (int pair = 0; pair < pairs(); pair++) {
+                int code = Rows.at(codes, pair);
+                int one = labels >> 4 * (code / 10) & 15;
+                int other = labels >> 4 * (code % 10) & 15;
+                boolean joins = Rows.hasBit(joined, pair) && one != other;
+                groups -= joins ? 1 : 0;
+                for (int thing = 0; thing < things && joins; thing++) {
+                    boolean moves = (labels >> 4 * thing & 15) == other;
+                    labels += moves ? one - other << 4 * thing : 0;
                 }
             }
             return groups;
-        }
-
-        private int groupOf(int thing, int joined) {
-            int group = 1 << thing;
-            for (int step = 1; step < things; step++) {
-                for (int a = 0; a < things; a++) {
-                    for (int b = a + 1; b < things; b++) {
-                        boolean touched = Rows.hasBit(group, a) || Rows.hasBit(group, b);
-                        if (touched && Rows.hasBit(joined, Orders.pairOf(things, a, b))) {
-                            group |= 1 << a | 1 << b;
-                        }
-                    }
-                }
-            }
-            return group;
         }
 
         /** The set's slot, as a new one if there was none; NONE if the ones near by are all taken. */
