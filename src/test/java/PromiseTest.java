@@ -173,6 +173,10 @@ public final class PromiseTest {
         fault("thing a weighs 1;row a a;", 3, 23);
         fault("thing a weighs 1;row a b;", 5, 23);
         fault("thing a weighs 1;row a;row a;", 2, 23);
+        fault(FIVE + "row e d c b a;", 0, NONE);
+        fault(FIVE + "row e d c b a b;", 3, FIVE.length() + 14);
+        fault(FIVE + "row e d c b a f;", 5, FIVE.length() + 14);
+        fault(FIVE + "row e d c b a ?;", 1, FIVE.length() + 14);
         planFaults();
     }
 
@@ -198,6 +202,12 @@ public final class PromiseTest {
         fault(deep + "done" + ends + ";", 0, NONE);
         fault(deep + "a b(done/done)" + ends + ";", 2, deep.length() + 4);
         fault(deep + "a b(?/done)" + ends + ";", 1, deep.length() + 4);
+        String seconds = two + "plan p ";
+        for (int i = 0; i < 10; i++) {
+            seconds += "a b(done/";
+        }
+        fault(seconds + "done" + "))))))))))" + ";", 0, NONE);
+        fault(seconds + "a b(done/done)" + "))))))))))" + ";", 2, seconds.length() + 4);
         String thirds = two + "plan p ";
         for (int i = 0; i < 10; i++) {
             thirds += "a b(done/done/";
@@ -402,6 +412,13 @@ public final class PromiseTest {
         promise = 31;
         due("ladder", x.ladder(false, 0), 7);
         due("loose", x.ladder(true, 0), 25);
+        promise = 26;
+        HeavierRow y = town(ABC);
+        y.told(4, 1, 1);
+        y.told(1, 2, 1);
+        y.told(4, 2, 1);
+        due("a is between", y.covers(0), 2);
+        shelf(y, 1, 20);
         x.told(1, 2, 2);
         contradicted(x);
     }
@@ -510,6 +527,12 @@ public final class PromiseTest {
         due("a d", x.total(1, 2, 1, 0), 3);
         promise = 20;
         due("place 2: a d and a e", x.atOnce(1, 2, 0), 4 + 8);
+        x = town("twins;" + FIVE);
+        x.told(4, 8, 0);
+        x.told(8, 16, 0);
+        promise = 19;
+        due("the same, c d e are even", x.total(1, 2, 0, 0), 18);
+        due("a c", x.total(1, 2, 1, 0), 2);
     }
 
     private static void spent() {
@@ -586,6 +609,10 @@ public final class PromiseTest {
         due("what -1", x.judged(0, 0, 0, -1, 0), NONE);
         x.told(1, 2, 1);
         due("known now", x.judged(0, 0, 0, 0, 0), 0);
+        x.told(2, 4, 1);
+        due("known at once", x.judged(1, 0, 0, 0, 0), 0);
+        due("who has place 1", x.judged(1, 1, 1, 0, 0), 0);
+        x.untell(1);
         due("all", x.judged(0, 0, 0, 2, 0), 8);
         x = town("twins;" + ABC + "plan p a b(done/done); plan q a b(done/done/a c(done/done/done));");
         due("missing third: done", x.judged(0, 2, 0, 0, 0), 13);
@@ -692,6 +719,12 @@ public final class PromiseTest {
         due("most c", x.weight(2, true, 0), 3);
         due("none such", x.weight(3, true, 0), NONE);
         due("none such", x.weight(-1, true, 0), NONE);
+        HeavierRow y = town("sticks 1;" + FIVE);
+        y.told(30, 1, 2);
+        due("a weighs more than four by 2", y.weights(0), 1);
+        shelf(y, 6, 1, 1, 1, 1);
+        due("least a", y.weight(0, false, 0), 6);
+        due("most e", y.weight(4, true, 0), 1);
         promise = 37;
         due("b c: within 1, or one more by 2", x.could(2, 4, 0), 7);
         due("a b", x.could(1, 2, 0), 2);
