@@ -9,7 +9,6 @@ public final class HeavierRow {
 
     private static final int SPENT = -2;
     private static final int MOST_BYTES = 1200;
-    private static final int BOXES = 3;
     private static final int MOST_WEIGHINGS = 60;
     private static final int LIAR_ORDERS = 6;
 
