@@ -5,7 +5,8 @@ import java.util.Comparator;
 import java.util.List;
 
 /** Any call with any numbers in any state: no call throws, and two objects answer the same. */
-public final class ExtremesTest {
+public final class ExtremesTest extends Due {
+    private static final int MOST_CALLS = 512;
     private static final int[] NUMBERS = {0, 1, 2, 3, 4, 5, 6, 7, 8, 12, 16, 24, 31, 32, 40, 59, 60, 61, 64, 100, 999, 1000,
         1001, 1200, 100000, -1, -2, -3, 65535, 0x3b3b3b3b, 0x61206220, Integer.MAX_VALUE, Integer.MIN_VALUE,
         Integer.MAX_VALUE - 1, Integer.MIN_VALUE + 1};
@@ -20,16 +21,20 @@ public final class ExtremesTest {
         return (int) ((seed >>> 33) % n);
     }
 
-    private static void tell(HeavierRow x, String text) {
-        x.end(0);
-        for (int at = 0; at < text.length(); at += 20) {
-            int[] five = new int[5];
-            for (int i = 0; i < 20; i++) {
-                five[i / 4] = five[i / 4] << 8 | (at + i < text.length() ? text.charAt(at + i) : 0);
-            }
-            x.feed(five[0], five[1], five[2], five[3], five[4]);
+    private static Object[] given(Method m) {
+        Object[] given = new Object[m.getParameterCount()];
+        for (int j = 0; j < given.length; j++) {
+            boolean small = rest(3) > 0;
+            given[j] = m.getParameterTypes()[j] == boolean.class ? (Object) (rest(2) == 0)
+                : (Object) NUMBERS[rest(small ? 8 : NUMBERS.length)];
         }
-        x.end(text.length());
+        return given;
+    }
+
+    /** A text takes some ten calls. */
+    private static void read(HeavierRow x, String text) {
+        x.end(0);
+        feed(x, text);
         x.street();
     }
 
@@ -42,25 +47,21 @@ public final class ExtremesTest {
         }
         calls.sort(Comparator.comparing(Method::getName));
         int done = 0;
-        for (int run = 0; run < 60; run++) {
+        for (int run = 0; run < 100; run++) {
             HeavierRow x = new HeavierRow();
             HeavierRow y = new HeavierRow();
-            for (int i = 0; i < 700; i++, done++) {
-                if (rest(60) == 0) {
+            for (int used = 0; used < MOST_CALLS; used++, done++) {
+                if (rest(60) == 0 && used + 20 < MOST_CALLS) {
                     String text = TEXTS[rest(TEXTS.length)];
-                    tell(x, text);
-                    tell(y, text);
+                    read(x, text);
+                    read(y, text);
+                    used += 15;
                 }
                 Method m = calls.get(rest(calls.size()));
-                Object[] given = new Object[m.getParameterCount()];
-                for (int j = 0; j < given.length; j++) {
-                    boolean small = rest(3) > 0;
-                    given[j] = m.getParameterTypes()[j] == boolean.class ? (Object) (rest(2) == 0)
-                        : (Object) NUMBERS[rest(small ? 8 : NUMBERS.length)];
-                }
                 if (m.getName().equals("street") && rest(4) > 0) {
                     continue;
                 }
+                Object[] given = given(m);
                 Object one = m.invoke(x, given);
                 if (!one.equals(m.invoke(y, given))) {
                     System.out.println("ExtremesTest: two objects answer " + m.getName() + " not alike");

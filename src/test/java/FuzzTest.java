@@ -1,7 +1,13 @@
 /** Runs of calls, made by a counter's rest alone, on HeavierRow and on Naive: each answer must be the same. */
 public final class FuzzTest {
+    private static final int MOST_CALLS = 512;
+    /** More than one text with all that is looked at behind it takes, and than one question. */
+    private static final int A_TEXT = 110;
+    private static final int A_QUESTION = 15;
+
     private long seed;
     private int wrong;
+    private int used;
     private long calls;
     private HeavierRow x;
     private Naive y;
@@ -18,6 +24,7 @@ public final class FuzzTest {
 
     private void due(String call, int got, int want) {
         calls++;
+        used++;
         log.append(call).append(" = ").append(want).append('\n');
         if (got != want) {
             wrong++;
@@ -239,37 +246,43 @@ public final class FuzzTest {
         }
     }
 
+    private void begin(String kind, int number) {
+        x = new HeavierRow();
+        y = new Naive();
+        used = 0;
+        log.setLength(0);
+        log.append(kind).append(number).append('\n');
+    }
+
     private void run(int number) {
         seed = number * 7919L + 17;
         for (int i = 0; i < 5; i++) {
             rest(2);
         }
-        x = new HeavierRow();
-        y = new Naive();
-        log.setLength(0);
-        log.append("run ").append(number).append('\n');
-        for (int streets = 1 + rest(3); streets > 0; streets--) {
-            String text = text();
-            tell(rest(4) == 0 ? mutated(text) : text);
-            for (int i = 0; i < 45; i++) {
-                if (rest(3) == 0) {
-                    act();
-                } else {
-                    ask();
-                }
+        begin("run ", number);
+        int streets = 1 + rest(3);
+        for (int i = 0; used + A_TEXT < MOST_CALLS; i++) {
+            if (i % (150 / streets) == 0) {
+                String text = text();
+                tell(rest(4) == 0 ? mutated(text) : text);
+            } else if (rest(3) == 0) {
+                act();
+            } else {
+                ask();
             }
-            everything();
+        }
+        for (int i = 0; used + A_QUESTION < MOST_CALLS; i++) {
+            ask();
         }
     }
 
     /** Texts alone: many more faults than whole runs would meet. */
     private void runTexts(int number) {
         seed = number * 104729L + 5;
-        x = new HeavierRow();
-        y = new Naive();
-        log.setLength(0);
-        log.append("texts ").append(number).append('\n');
         for (int i = 0; i < 20; i++) {
+            if (i == 0 || used + A_TEXT >= MOST_CALLS) {
+                begin("texts ", number);
+            }
             tell(mutated(text()));
         }
     }

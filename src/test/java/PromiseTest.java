@@ -1,54 +1,7 @@
 /** Each promise of the document: ordinary inputs, the edges it names, wrong inputs. The answers are worked out by hand. */
-public final class PromiseTest {
-    private static final int NONE = HeavierRow.NONE;
-    private static final String ABC = "thing a weighs 7; thing b weighs 5; thing c weighs 2;";
-    private static final String FIVE = "thing a weighs 9;thing b weighs 7;thing c weighs 5;thing d weighs 3;thing e weighs 1;";
-    private static int promise;
-    private static int wrong;
-    private static int checks;
-
-    private static void due(String what, int got, int want) {
-        checks++;
-        if (got != want) {
-            wrong++;
-            System.out.println("promise " + promise + ": " + what + " answered " + got + ", due is " + want);
-        }
-    }
-
-    private static void due(String what, boolean got, boolean want) {
-        due(what, got ? 1 : 0, want ? 1 : 0);
-    }
-
-    private static void feedText(HeavierRow x, String text) {
-        for (int at = 0; at < text.length(); at += 20) {
-            int[] five = new int[5];
-            for (int i = 0; i < 20; i++) {
-                five[i / 4] = five[i / 4] << 8 | (at + i < text.length() ? text.charAt(at + i) : 0);
-            }
-            x.feed(five[0], five[1], five[2], five[3], five[4]);
-        }
-        x.end(text.length());
-    }
-
-    private static HeavierRow town(String text) {
-        HeavierRow x = new HeavierRow();
-        feedText(x, text);
-        x.street();
-        due("fault of " + text, x.fault(0), 0);
-        return x;
-    }
-
-    /** Lies there: these numbers, nothing behind them. */
-    private static void shelf(HeavierRow x, int... row) {
-        due("about(6)", x.about(6), row.length);
-        due("lies(-1)", x.lies(-1), NONE);
-        for (int i = 0; i <= row.length; i++) {
-            due("lies(" + i + ")", x.lies(i), i < row.length ? row[i] : NONE);
-        }
-    }
-
+public final class PromiseTest extends Due {
     private static void newObject() {
-        promise = 1;
+        sentence("promise 1");
         HeavierRow x = new HeavierRow();
         for (int what = 0; what < 10; what++) {
             due("about(" + what + ")", x.about(what), 0);
@@ -61,7 +14,7 @@ public final class PromiseTest {
     }
 
     private static void tape() {
-        promise = 2;
+        sentence("promise 2");
         HeavierRow x = new HeavierRow();
         due("feed", x.feed(0x74776973, 0x3b202020, 0x20202020, 0x20202020, 0x20202020), 20);
         due("a wrong word", x.street(), NONE);
@@ -74,7 +27,7 @@ public final class PromiseTest {
         }
         due("feed 61", x.feed(0, 0, 0, 0, 0), NONE);
         due("tape", x.about(5), 1200);
-        promise = 3;
+        sentence("promise 3");
         due("end(1201)", x.end(1201), NONE);
         due("end(-1)", x.end(-1), NONE);
         due("tape", x.about(5), 1200);
@@ -87,14 +40,14 @@ public final class PromiseTest {
     }
 
     private static void street() {
-        promise = 4;
+        sentence("promise 4");
         HeavierRow x = town(ABC + "sticks 3; plan q a b (done / done);");
         x.later(7);
         x.weigh(1, 2);
         x.wet();
         x.left(0, 9);
         x.image(1);
-        feedText(x, "twins; thing z;");
+        feed(x, "twins; thing z;");
         due("street", x.street(), NONE);
         due("things stay", x.about(0), 3);
         due("twins stay", x.about(1), 0);
@@ -106,7 +59,7 @@ public final class PromiseTest {
         due("twos stay", x.about(8), 1);
         due("days stay", x.about(9), 1);
         due("boxes stay", x.back(1), 1);
-        feedText(x, "\n twins ; thing z weighs 999;thing thingy weighs 1;row thingy;sticks 99;");
+        feed(x, "\n twins ; thing z weighs 999;thing thingy weighs 1;row thingy;sticks 99;");
         due("street", x.street(), 2);
         int[] about = {2, 1, 99, 0, 7, 0, 0, 0, 0, 0};
         for (int what = 0; what < about.length; what++) {
@@ -120,7 +73,7 @@ public final class PromiseTest {
         x = town(ABC);
         x.wet();
         x.wet();
-        feedText(x, ABC);
+        feed(x, ABC);
         x.street();
         due("the seed is 0", x.wet(), 1);
         due("the seed goes on", x.wet(), 0);
@@ -128,7 +81,7 @@ public final class PromiseTest {
 
     private static void fault(String text, int what, int place) {
         HeavierRow x = new HeavierRow();
-        feedText(x, text);
+        feed(x, text);
         x.street();
         due("fault(0) of " + text, x.fault(0), what);
         due("fault(1) of " + text, x.fault(1), place);
@@ -137,7 +90,7 @@ public final class PromiseTest {
     }
 
     private static void faults() {
-        promise = 5;
+        sentence("promise 5");
         HeavierRow x = new HeavierRow();
         due("ahead of any", x.fault(0), 0);
         due("ahead of any", x.fault(1), NONE);
@@ -235,7 +188,7 @@ public final class PromiseTest {
     }
 
     private static void weighings() {
-        promise = 6;
+        sentence("promise 6");
         HeavierRow x = town(ABC + "sticks 2;");
         due("7 against 5", x.weigh(1, 2), 0);
         due("7 against 2", x.weigh(1, 4), 1);
@@ -246,18 +199,18 @@ public final class PromiseTest {
         int[][] bad = {{0, 1}, {1, 0}, {1, 1}, {3, 6}, {8, 1}, {1, 8}, {-1, 1}, {1, -2}, {9, 2}};
         for (int[] heaps : bad) {
             due("weigh " + heaps[0] + " " + heaps[1], x.weigh(heaps[0], heaps[1]), NONE);
-            promise = 7;
+            sentence("promise 7");
             due("told " + heaps[0] + " " + heaps[1], x.told(heaps[0], heaps[1], 1), NONE);
-            promise = 37;
+            sentence("promise 37");
             due("could " + heaps[0] + " " + heaps[1], x.could(heaps[0], heaps[1], 0), NONE);
-            promise = 6;
+            sentence("promise 6");
         }
-        promise = 7;
+        sentence("promise 7");
         due("told", x.told(6, 1, 2), 5);
         due("told 3", x.told(6, 1, 3), NONE);
         due("told -1", x.told(6, 1, -1), NONE);
         due("told", x.told(1, 2, 0), 6);
-        promise = 8;
+        sentence("promise 8");
         int[] sixth = {6, 1, 2, 0, NONE};
         for (int what = 0; what < 5; what++) {
             due("weighing(5, " + what + ")", x.weighing(5, what), sixth[what]);
@@ -268,16 +221,16 @@ public final class PromiseTest {
         for (int i = 7; i < 60; i++) {
             due("told", x.told(1, 2, 1), i);
         }
-        promise = 6;
+        sentence("promise 6");
         due("a 61st", x.weigh(1, 2), NONE);
-        promise = 7;
+        sentence("promise 7");
         due("a 61st", x.told(1, 2, 1), NONE);
         due("60", x.about(3), 60);
         due("all single ones of a", x.led(0, 0, 0), 56);
     }
 
     private static void times() {
-        promise = 9;
+        sentence("promise 9");
         HeavierRow x = town(ABC);
         due("d", x.wet(), 1);
         due("c weighs as b did", x.weigh(4, 2), 1);
@@ -295,7 +248,7 @@ public final class PromiseTest {
         due("a and b exchanged", x.weigh(1, 2), 0);
         due("d", x.wet(), 0);
         due("c and a exchanged", x.weigh(1, 4), 1);
-        promise = 10;
+        sentence("promise 10");
         x = town(ABC);
         x.weigh(1, 2);
         due("left", x.left(0, 0), 3);
@@ -317,7 +270,7 @@ public final class PromiseTest {
         due("ahead of the wet day, at 5", x.led(1, 2, 5), 1);
         due("the one behind it, at 6", x.surely(1, 2, 6), 2);
         due("one counts", x.led(1, 2, 100), 1);
-        promise = 11;
+        sentence("promise 11");
         due("later", x.later(1001), NONE);
         due("later", x.later(-1), NONE);
         due("later", x.later(0), 6);
@@ -331,7 +284,7 @@ public final class PromiseTest {
     }
 
     private static void left() {
-        promise = 12;
+        sentence("promise 12");
         HeavierRow x = town(ABC);
         due("left", x.left(0, 0), 6);
         shelf(x, 0, 1, 2);
@@ -355,7 +308,7 @@ public final class PromiseTest {
         due("two lies", x.left(2, 0), 6);
         due("with twins", town("twins;" + ABC).left(0, 0), 13);
         due("four with twins", town("twins;" + ABC + "thing d weighs 1;").left(0, 0), 75);
-        promise = 13;
+        sentence("promise 13");
         due("struck", x.struck(0), 2);
         shelf(x, 0, 1, 2);
         x.told(2, 1, 1);
@@ -370,7 +323,7 @@ public final class PromiseTest {
     }
 
     private static void known() {
-        promise = 14;
+        sentence("promise 14");
         HeavierRow x = town(FIVE);
         x.told(1, 2, 1);
         x.told(2, 4, 1);
@@ -381,13 +334,13 @@ public final class PromiseTest {
         due("d", x.place(3, true, 0), 4);
         due("none such", x.place(5, true, 0), NONE);
         due("none such", x.place(-1, true, 0), NONE);
-        promise = 15;
+        sentence("promise 15");
         due("place 0 in some", x.stand(0, true, 0), 25);
         due("place 0 in all", x.stand(0, false, 0), 0);
         due("place 4 in some", x.stand(4, true, 0), 28);
         due("place 5", x.stand(5, true, 0), NONE);
         due("place -1", x.stand(-1, false, 0), NONE);
-        promise = 16;
+        sentence("promise 16");
         due("a b", x.surely(0, 1, 0), 1);
         due("a c, by b", x.surely(0, 2, 0), 1);
         due("c a", x.surely(2, 0, 0), 2);
@@ -395,24 +348,24 @@ public final class PromiseTest {
         due("a a", x.surely(0, 0, 0), NONE);
         due("a f", x.surely(0, 5, 0), NONE);
         due("-1 a", x.surely(-1, 0, 0), NONE);
-        promise = 27;
+        sentence("promise 27");
         due("lighter than a", x.sits(0, 0, 0), 6);
         due("heavier than c", x.sits(2, 1, 0), 3);
         due("lighter than d", x.sits(3, 0, 0), 0);
         due("what 2", x.sits(3, 2, 0), NONE);
         due("what -1", x.sits(3, -1, 0), NONE);
         due("none such", x.sits(5, 0, 0), NONE);
-        promise = 26;
+        sentence("promise 26");
         due("covers", x.covers(0), 2);
         shelf(x, 1, 12);
         x.told(1, 4, 1);
         x.told(16, 4, 1);
         due("covers", x.covers(0), 3);
         shelf(x, 1, 12, 42);
-        promise = 31;
+        sentence("promise 31");
         due("ladder", x.ladder(false, 0), 7);
         due("loose", x.ladder(true, 0), 25);
-        promise = 26;
+        sentence("promise 26");
         HeavierRow y = town(ABC);
         y.told(4, 1, 1);
         y.told(1, 2, 1);
@@ -424,45 +377,45 @@ public final class PromiseTest {
     }
 
     private static void contradicted(HeavierRow x) {
-        promise = 14;
+        sentence("promise 14");
         due("none left", x.place(0, false, 0), NONE);
-        promise = 15;
+        sentence("promise 15");
         due("none left", x.stand(0, false, 0), NONE);
-        promise = 16;
+        sentence("promise 16");
         due("none left", x.surely(0, 1, 0), NONE);
-        promise = 17;
+        sentence("promise 17");
         due("none left", x.fewest(0, 0, 0), 0);
-        promise = 18;
+        sentence("promise 18");
         due("none left", x.next(2, 1, 0), NONE);
-        promise = 19;
+        sentence("promise 19");
         due("none left", x.total(1, 1, 0, 0), 0);
         due("none left", x.total(1, 1, 1, 0), NONE);
-        promise = 20;
+        sentence("promise 20");
         due("none left", x.atOnce(1, 1, 0), 0);
-        promise = 21;
+        sentence("promise 21");
         due("none left", x.answers(0, 0, 0, 0), NONE);
-        promise = 23;
+        sentence("promise 23");
         due("none left", x.trusty(0, 0, 0), 0);
-        promise = 24;
+        sentence("promise 24");
         due("none left", x.odds(0, 1, 0, 0), 0);
         due("none left", x.odds(0, 1, 1, 0), 0);
-        promise = 25;
+        sentence("promise 25");
         due("none left", x.evenest(0), NONE);
-        promise = 27;
+        sentence("promise 27");
         due("none left", x.sits(0, 0, 0), NONE);
-        promise = 30;
+        sentence("promise 30");
         due("none left", x.twins(0, 0), NONE);
-        promise = 31;
+        sentence("promise 31");
         due("none left", x.ladder(true, 0), NONE);
-        promise = 32;
+        sentence("promise 32");
         due("none left", x.bound(0), NONE);
-        promise = 26;
+        sentence("promise 26");
         due("none left", x.covers(0), NONE);
         shelf(x);
     }
 
     private static void goals() {
-        promise = 17;
+        sentence("promise 17");
         HeavierRow x = town(FIVE);
         due("all", x.fewest(0, 99, 0), 7);
         due("the heaviest", x.fewest(1, 0, 0), 4);
@@ -473,7 +426,7 @@ public final class PromiseTest {
         due("thing -1", x.fewest(2, -1, 0), NONE);
         due("goal 3", x.fewest(3, 0, 0), NONE);
         due("goal -1", x.fewest(-1, 0, 0), NONE);
-        promise = 18;
+        sentence("promise 18");
         due("all", x.next(0, 0, 0), 1);
         due("thing 4", x.next(2, 4, 0), 4);
         due("thing 5", x.next(2, 5, 0), NONE);
@@ -483,7 +436,7 @@ public final class PromiseTest {
         x.told(1, 4, 1);
         due("then the fifth into the middle", x.next(0, 0, 0), 24);
         due("so many", x.fewest(0, 0, 0), 4);
-        promise = 19;
+        sentence("promise 19");
         x = town(ABC);
         due("all", x.total(0, 0, 0, 0), 16);
         due("its next", x.total(0, 0, 1, 0), 1);
@@ -495,9 +448,9 @@ public final class PromiseTest {
         x.told(2, 4, 1);
         due("come to", x.total(0, 0, 0, 0), 0);
         due("come to", x.total(0, 0, 1, 0), NONE);
-        promise = 18;
+        sentence("promise 18");
         due("come to", x.next(0, 0, 0), NONE);
-        promise = 20;
+        sentence("promise 20");
         due("come to", x.atOnce(0, 0, 0), 0);
         x = town(FIVE);
         due("all pairs", x.atOnce(0, 0, 0), 1023);
@@ -518,19 +471,19 @@ public final class PromiseTest {
         HeavierRow x = town("twins;" + FIVE);
         x.told(1, 2, 0);
         x.told(2, 4, 0);
-        promise = 17;
+        sentence("promise 17");
         due("place 2", x.fewest(1, 2, 0), 2);
-        promise = 18;
+        sentence("promise 18");
         due("place 2", x.next(1, 2, 0), 3);
-        promise = 19;
+        sentence("promise 19");
         due("13 for the first, 5 for the second", x.total(1, 2, 0, 0), 18);
         due("a d", x.total(1, 2, 1, 0), 3);
-        promise = 20;
+        sentence("promise 20");
         due("place 2: a d and a e", x.atOnce(1, 2, 0), 4 + 8);
         x = town("twins;" + FIVE);
         x.told(4, 8, 0);
         x.told(8, 16, 0);
-        promise = 19;
+        sentence("promise 19");
         due("the same, c d e are even", x.total(1, 2, 0, 0), 18);
         due("a c", x.total(1, 2, 1, 0), 2);
     }
@@ -540,16 +493,16 @@ public final class PromiseTest {
         int[] got = {x.fewest(2, 0, 0), x.next(0, 0, 0), x.total(0, 0, 0, 0), x.total(1, 0, 1, 0), x.atOnce(0, 0, 0), x.trusty(0, 0, 0)};
         int[] promises = {17, 18, 19, 19, 20, 23};
         for (int i = 0; i < got.length; i++) {
-            promise = promises[i];
+            sentence("promise " + promises[i]);
             due("spent", got[i], -2);
         }
-        promise = 17;
+        sentence("promise 17");
         due("NONE ahead of spent", x.fewest(2, 5, 0), NONE);
-        promise = 19;
+        sentence("promise 19");
         due("NONE ahead of spent", x.total(0, 0, 2, 0), NONE);
-        promise = 21;
+        sentence("promise 21");
         due("541", x.answers(0, 0, 0, 0), 541);
-        promise = 23;
+        sentence("promise 23");
         x = town(FIVE);
         x.told(1, 2, 1);
         x.told(1, 4, 1);
@@ -569,7 +522,7 @@ public final class PromiseTest {
     }
 
     private static void answers() {
-        promise = 21;
+        sentence("promise 21");
         HeavierRow x = town(ABC);
         x.told(1, 2, 1);
         due("orders", x.answers(0, 9, 0, 0), 3);
@@ -592,7 +545,7 @@ public final class PromiseTest {
         due("place 0 of 13: seven sets", x.answers(1, 0, 0, 0), 7);
         due("a alone in 3", x.answers(1, 0, 1, 0), 3);
         due("a alone", x.answers(1, 0, 2, 0), 1);
-        promise = 22;
+        sentence("promise 22");
         x = town(ABC + "plan p a b(a c(b c(done/done)/done)/done/a c(done/done)); plan q done;");
         due("the right of b heavier: 3, the rest is known", x.judged(0, 0, 0, 0, 0), 3);
         due("most", x.judged(0, 0, 0, 1, 0), 3);
@@ -621,7 +574,7 @@ public final class PromiseTest {
     }
 
     private static void twos() {
-        promise = 24;
+        sentence("promise 24");
         HeavierRow x = town("twins;" + ABC);
         due("a heavier than b", x.odds(0, 1, 0, 0), 5);
         due("of", x.odds(0, 1, 1, 0), 13);
@@ -630,13 +583,13 @@ public final class PromiseTest {
         due("a a", x.odds(0, 0, 0, 0), NONE);
         due("a d", x.odds(0, 3, 1, 0), NONE);
         due("-1 a", x.odds(-1, 0, 1, 0), NONE);
-        promise = 25;
+        sentence("promise 25");
         due("all alike: the first", x.evenest(0), 1);
         x.told(1, 2, 1);
         due("a b is sure", x.evenest(0), 2);
         due("one thing", town("thing a weighs 1;").evenest(0), NONE);
         due("two things", town("thing a weighs 1;thing b weighs 1;").evenest(0), 1);
-        promise = 30;
+        sentence("promise 30");
         due("not sure", x.twins(0, 0), 0);
         x.told(2, 4, 0);
         due("b is c's twin", x.twins(2, 0), 2);
@@ -644,17 +597,17 @@ public final class PromiseTest {
         due("a has none", x.twins(0, 0), 0);
         due("none such", x.twins(3, 0), NONE);
         due("none such", x.twins(-1, 0), NONE);
-        promise = 31;
+        sentence("promise 31");
         due("ladder: no two twins", x.ladder(false, 0), 3);
         due("loose: twins are sure", x.ladder(true, 0), 1);
         due("ladder of nothing", new HeavierRow().ladder(false, 0), 0);
-        promise = 32;
+        sentence("promise 32");
         due("one order", x.bound(0), 0);
         due("13 with twins", town("twins;" + ABC).bound(0), 3);
         due("6 without", town(ABC).bound(0), 3);
         due("120", town(FIVE).bound(0), 7);
         due("541", town("twins;" + FIVE).bound(0), 6);
-        promise = 28;
+        sentence("promise 28");
         x = town(ABC + "row c;");
         x.told(1, 2, 1);
         x.told(2, 1, 1);
@@ -667,7 +620,7 @@ public final class PromiseTest {
         due("b c", x.led(1, 2, 0), 0);
         due("a d", x.led(0, 3, 0), NONE);
         due("-1 a", x.led(-1, 0, 0), NONE);
-        promise = 29;
+        sentence("promise 29");
         due("c a b: b over a, a even to c", x.doubts(0), 2);
         due("ahead of all", x.doubts(-1), 0);
         x.untell(1);
@@ -675,7 +628,7 @@ public final class PromiseTest {
     }
 
     private static void clerks() {
-        promise = 33;
+        sentence("promise 33");
         HeavierRow x = town("twins;" + FIVE + "row c a;");
         due("m 0", x.swapped(0, 2), 1);
         due("m 0", x.swapped(0, 0), 0);
@@ -693,7 +646,7 @@ public final class PromiseTest {
         due("what -1", x.swapped(1, -1), NONE);
         due("nothing", new HeavierRow().swapped(2, 2), 1);
         due("one", town("thing a weighs 1;").swapped(2, 2), 1);
-        promise = 34;
+        sentence("promise 34");
         int[] row = {2, 0, 1, 3, 4};
         for (int place = 0; place < 5; place++) {
             due("clerk(" + place + ")", x.clerk(place), row[place]);
@@ -704,14 +657,14 @@ public final class PromiseTest {
     }
 
     private static void weights() {
-        promise = 35;
+        sentence("promise 35");
         HeavierRow x = town(ABC + "sticks 1;");
         due("all", x.weights(0), 216);
         shelf(x, 1, 1, 1);
         x.told(6, 1, 2);
         due("a heavier than b and c by 2", x.weights(0), 10);
         shelf(x, 4, 1, 1);
-        promise = 36;
+        sentence("promise 36");
         due("least a", x.weight(0, false, 0), 4);
         due("most a", x.weight(0, true, 0), 6);
         due("least b", x.weight(1, false, 0), 1);
@@ -725,26 +678,26 @@ public final class PromiseTest {
         shelf(y, 6, 1, 1, 1, 1);
         due("least a", y.weight(0, false, 0), 6);
         due("most e", y.weight(4, true, 0), 1);
-        promise = 37;
+        sentence("promise 37");
         due("b c: within 1, or one more by 2", x.could(2, 4, 0), 7);
         due("a b", x.could(1, 2, 0), 2);
         due("b a", x.could(2, 1, 0), 4);
-        promise = 39;
+        sentence("promise 39");
         due("best heaps", x.heaps(0, 0), 2);
         due("best heaps", x.heaps(1, 0), 4);
         due("best heaps: b, c within 1", x.heaps(2, 0), 8);
         due("what 3", x.heaps(3, 0), NONE);
         due("what -1", x.heaps(-1, 0), NONE);
         due("at -1: a, b within 1", x.heaps(2, -1), 96);
-        promise = 35;
+        sentence("promise 35");
         x.told(2, 1, 0);
         due("it can't be", x.weights(0), 0);
         shelf(x);
-        promise = 36;
+        sentence("promise 36");
         due("none", x.weight(0, true, 0), NONE);
-        promise = 37;
+        sentence("promise 37");
         due("none", x.could(1, 2, 0), 0);
-        promise = 39;
+        sentence("promise 39");
         due("none", x.heaps(0, 0), NONE);
         due("one thing", town("thing a weighs 1;").heaps(0, 0), NONE);
         x = town("thing a weighs 50;thing b weighs 1;");
@@ -752,13 +705,13 @@ public final class PromiseTest {
         due("two things", x.heaps(1, 0), 2);
         due("15 are left", x.heaps(2, 0), 15);
         x = new HeavierRow();
-        promise = 35;
+        sentence("promise 35");
         due("nothing", x.weights(0), 1);
         shelf(x);
     }
 
     private static void stones() {
-        promise = 38;
+        sentence("promise 38");
         HeavierRow x = new HeavierRow();
         due("40 both", x.stones(40, true), 4);
         shelf(x, 1, 3, 9, 27);
@@ -767,7 +720,7 @@ public final class PromiseTest {
     }
 
     private static void stonesEdges() {
-        promise = 38;
+        sentence("promise 38");
         HeavierRow x = new HeavierRow();
         due("13", x.stones(13, true), 3);
         shelf(x, 1, 3, 9);
@@ -783,7 +736,7 @@ public final class PromiseTest {
         shelf(x, 1);
         due("41", x.stones(41, true), NONE);
         shelf(x);
-        promise = 40;
+        sentence("promise 40");
         due("lies(0) of nothing", x.lies(0), NONE);
         x.stones(13, true);
         due("lies(2)", x.lies(2), 9);
@@ -794,7 +747,7 @@ public final class PromiseTest {
     }
 
     private static void boxes() {
-        promise = 41;
+        sentence("promise 41");
         HeavierRow x = town(ABC);
         due("none", x.image(3), NONE);
         due("none", x.image(-1), NONE);
@@ -805,7 +758,7 @@ public final class PromiseTest {
         x.untell(0);
         x.wet();
         due("image", x.image(0), 2);
-        promise = 42;
+        sentence("promise 42");
         x.told(1, 2, 0);
         x.later(4);
         x.untell(1);
@@ -833,7 +786,7 @@ public final class PromiseTest {
         due("hidden weights", x.weigh(2, 4), 1);
         due("the seed", x.wet(), 1);
         swappedBoxes();
-        promise = 43;
+        sentence("promise 43");
         due("about(10)", x.about(10), NONE);
         due("about(-1)", x.about(-1), NONE);
         x = town("twins; sticks 4;" + ABC + "plan p done; plan q a b(a c(done/done)/done);");
@@ -850,7 +803,7 @@ public final class PromiseTest {
 
     /** What a box keeps is put back over weighings that were told at the same numbers. */
     private static void swappedBoxes() {
-        promise = 42;
+        sentence("promise 42");
         HeavierRow x = town(ABC);
         x.image(0);
         x.later(1);
@@ -881,7 +834,7 @@ public final class PromiseTest {
 
     /** Sixty twos: the last plan's last two is as good as the first. */
     private static void manyTwos() {
-        promise = 22;
+        sentence("promise 22");
         String text = ABC;
         for (int plan = 0; plan < 2; plan++) {
             text += "plan p" + "qr".charAt(plan) + " a b(" + branch(4) + "/" + branch(3) + ");";
@@ -912,9 +865,6 @@ public final class PromiseTest {
         stones();
         stonesEdges();
         boxes();
-        System.out.println("PromiseTest: " + checks + " answers, " + wrong + " wrong");
-        if (wrong != 0) {
-            System.exit(1);
-        }
+        finish("PromiseTest");
     }
 }

@@ -54,9 +54,9 @@ public final class StonesTest {
     }
 
     public static void main(String[] args) {
-        HeavierRow x = new HeavierRow();
         int wrong = 0;
         for (int w = 1; w <= 40; w++) {
+            HeavierRow x = new HeavierRow();
             for (int both = 0; both < 2; both++) {
                 int[] row = first(w, both == 1);
                 boolean same = x.stones(w, both == 1) == row.length && x.about(6) == row.length;
